@@ -1,11 +1,29 @@
+import java.io.IOException;
+import java.nio.file.Files;
+import java.nio.file.Path;
+import java.util.ArrayList;
+import java.util.List;
+
 /** What the tests share: a count of answers that are not as due, and texts put on a board's tape. */
 final class Due {
+    private static final Path DOCUMENT = Path.of("../shared/DOC.md");
+
     private final String test;
+    private final List<String> sentences = new ArrayList<>();
+    private final List<Integer> promises = new ArrayList<>();
+    private String heading = "";
     private int right;
     private int wrong;
 
     Due(String test) {
         this.test = test;
+    }
+
+    /** The answers behind this are due by a sentence of the document, which is told in its own words. */
+    void by(int promise, String sentence) {
+        promises.add(promise);
+        sentences.add(sentence);
+        heading = "P" + promise + " \"" + sentence + "\": ";
     }
 
     void is(String what, long got, long want) {
@@ -15,7 +33,7 @@ final class Due {
         }
         wrong++;
         if (wrong <= 40) {
-            System.out.println(test + ": " + what + " answered " + got + ", due is " + want);
+            System.out.println(test + ": " + heading + what + " answered " + got + ", due is " + want);
         }
     }
 
@@ -24,9 +42,26 @@ final class Due {
     }
 
     void close() {
-        System.out.println(test + ": " + right + " answers as due, " + wrong + " not");
+        System.out.println(test + ": " + right + " answers as due, " + wrong + " not"
+            + (sentences.isEmpty() ? "" : ", by " + sentences.size() + " sentences"));
         if (wrong > 0) {
             System.exit(1);
+        }
+    }
+
+    /** Each sentence that answers are due by stands in the document, and each promise has one. */
+    void quotesStand(int lastPromise) throws IOException {
+        heading = "";
+        for (int p = 1; p <= lastPromise; p++) {
+            is("promise " + p + " has a sentence", promises.contains(p), true);
+        }
+        if (!Files.isReadable(DOCUMENT)) {
+            System.out.println(test + ": " + DOCUMENT + " is not here, so no sentence was looked up");
+            return;
+        }
+        String document = Files.readString(DOCUMENT).replaceAll("\\s+", " ");
+        for (String sentence : sentences) {
+            is("the document says: " + sentence, document.contains(sentence), true);
         }
     }
 
