@@ -192,6 +192,50 @@ final class AnswerEdges {
         Due.text(x, "vow 3;");
         due.is("none", x.end(0), true);
         due.is("none is left", x.count(4), 0);
+        tapeAlone();
+    }
+
+    /** Bytes that are gone from the tape are read by no call. */
+    private void tapeAlone() {
+        SistersBoard x = three();
+        Due.text(x, "usedused").end(4);
+        due.is("a word's end", x.sentence(), 1);
+        Due.text(x, "on 12").end(4);
+        due.is("a number's end", x.sentence(), 1);
+        due.is("on 1", x.said(NONE), 3);
+        Due.text(x, "used or used").end(4);
+        due.is("a sentence's end", x.sentence(), 1);
+        Due.text(x, "hour 1;hour 1;").end(7);
+        due.is("a book's end", x.book(0), NONE);
+        due.is("one line", x.told(1), 1);
+        Due.put(x, 1, 0, 2, 9).end(3);
+        due.is("an order's end", x.sets(), 2);
+        Due.put(x, 0, 1, 255, 255).end(2);
+        due.is("the pairs' end", x.faulty(), 5);
+        Due.put(x, 0, 1, 0, 0).end(2);
+        due.is("the pairs' end", x.faulty(), 5);
+        // The same by bytes that an earlier text left: it was longer.
+        Due.text(x, "@".repeat(300)).board();
+        x.feed(0x75736564, -1, -1, -1, -1);
+        x.end(4);
+        due.is("behind a longer text", x.sentence(), 1);
+        fullTapes();
+    }
+
+    /** A token may go on to the very last byte of a full tape. */
+    private void fullTapes() {
+        String[] signs = {"a", "7", " ", ";", "(", "@", "vow 7", "used and "};
+        for (String sign : signs) {
+            String text = sign.repeat(940 / sign.length() + 1).substring(0, 940);
+            for (int kind = 0; kind < 3; kind++) {
+                SistersBoard x = three();
+                Due.text(x, text);
+                due.is("full", x.count(4), 940);
+                int answer = kind == 0 ? x.board() : kind == 1 ? x.book(0) : x.sentence();
+                due.is("a fault in a full tape of " + sign, answer < 0 && x.fault() > 0, true);
+                due.is("it is empty then", x.count(4), 0);
+            }
+        }
     }
 
     // ---- what is so

@@ -916,6 +916,14 @@ final class TextEdges {
             due.is("it stays: how many", x.said(-1), 1);
             due.is("it stays: which", x.said(0), 1);
         }
+        // Nothing of an earlier, longer one is said.
+        String[] longer = {"not used", "used or used or used", "not not not not used and not on 1"};
+        for (String text : longer) {
+            due.is(text, Due.text(x, text).sentence() > 1, true);
+            due.is("a shorter one", Due.text(x, "changed").sentence(), 1);
+            due.is("how many", x.said(-1), 1);
+            due.is("which", x.said(0), 0);
+        }
         SistersBoard y = Due.boardOf(BASE);
         due.is("a fault ahead of any", Due.text(y, "used and").sentence(), -9);
         due.is("there is none", y.said(-1), -1);
