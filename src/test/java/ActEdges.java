@@ -658,7 +658,7 @@ final class ActEdges {
     }
 
     private void drawnWrap() {
-        due.by(31, "for each draw of n x becomes x * 1103515245 + 12345 (an int, wrapping), the draw is (x >>> 8) % n: each HOUR: two times: a draw of all wires (IN), of all wires (OUT), of 6 (and 1: HOURS), of 2 (HOW): a call, if it can be; then the HOUR.");
+        due.by(31, "DRAWN by a seed x: for each draw of n x becomes x * 1103515245 + 12345 (an int, wrapping), the draw is (x >>> 8) % n: each HOUR: two times: a draw of all wires (IN), of all wires (OUT), of 6 (and 1: HOURS), of 2 (HOW): a call, if it can be; then the HOUR.");
         int[] seeds = {0, 1, -1, 7, Integer.MAX_VALUE, Integer.MIN_VALUE, 1 << 30, -123456789, 99};
         String[] boards = {THREE, TO_AND_FRO, "wires 2;switch a 0 1;", "wires 8;", "wires 7;switch a 0 6;switch b 1 5;"};
         for (int seed : seeds) {

@@ -2,11 +2,15 @@ import java.io.IOException;
 import java.nio.file.Files;
 import java.nio.file.Path;
 import java.util.ArrayList;
+import java.util.Arrays;
 import java.util.List;
+import java.util.regex.Matcher;
+import java.util.regex.Pattern;
 
 /** What the tests share: a count of answers that are not as due, and texts put on a board's tape. */
 final class Due {
     private static final Path DOCUMENT = Path.of("../shared/DOC.md");
+    private static final Pattern HEADINGS = Pattern.compile("## Terms|## Promise \\d+: [A-Za-z ]+ `[^`]*`|```(text)?|==== [23]\\.");
 
     private final String test;
     private final List<String> sentences = new ArrayList<>();
@@ -55,13 +59,47 @@ final class Due {
         for (int p = 1; p <= lastPromise; p++) {
             is("promise " + p + " has a sentence", promises.contains(p), true);
         }
+        String document = document();
+        for (String sentence : sentences) {
+            is("the document says: " + sentence, document.isEmpty() || document.contains(sentence), true);
+        }
+    }
+
+    /** The document on one line; empty if it is not here. */
+    private String document() throws IOException {
         if (!Files.isReadable(DOCUMENT)) {
             System.out.println(test + ": " + DOCUMENT + " is not here, so no sentence was looked up");
+            return "";
+        }
+        return Files.readString(DOCUMENT).replaceAll("\\s+", " ");
+    }
+
+    /** All words of the terms and the promises, but for their headings, stand in a sentence that answers are due by. */
+    void quotesCover() throws IOException {
+        heading = "";
+        String rest = document();
+        if (rest.isEmpty()) {
             return;
         }
-        String document = Files.readString(DOCUMENT).replaceAll("\\s+", " ");
+        int from = rest.indexOf("## Terms");
+        int to = rest.indexOf("## Not promised");
+        is("the document has terms and promises", from >= 0 && from < to, true);
+        boolean[] quoted = new boolean[rest.length()];
         for (String sentence : sentences) {
-            is("the document says: " + sentence, document.contains(sentence), true);
+            for (int at = rest.indexOf(sentence); at >= 0; at = rest.indexOf(sentence, at + 1)) {
+                Arrays.fill(quoted, at, at + sentence.length(), true);
+            }
+        }
+        Matcher headings = HEADINGS.matcher(rest);
+        while (headings.find()) {
+            Arrays.fill(quoted, headings.start(), headings.end(), true);
+        }
+        StringBuilder words = new StringBuilder();
+        for (int at = Math.max(from, 0); at < to; at++) {
+            words.append(quoted[at] ? '\n' : rest.charAt(at));
+        }
+        for (String left : words.toString().split("\n+")) {
+            is("answers are due by: " + left, left.matches(".*[A-Za-z0-9].*"), false);
         }
     }
 
